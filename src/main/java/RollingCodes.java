@@ -52,6 +52,7 @@ public final class RollingCodes {
 
     public RollingCodes() {
         now.begin();
+        seen.clear();
     }
 
     // ---- the street
@@ -776,7 +777,7 @@ public final class RollingCodes {
             }
             for (int g = 0; g < GATES; g++) {
                 openings[g] = 0;
-                waitNoMore(g);
+                waitFor(g, NONE, NONE);
                 for (int f = 0; f < FOBS; f++) {
                     taught(g, f);
                 }
@@ -918,9 +919,16 @@ public final class RollingCodes {
             }
             for (int f = 0; f < plan.fobs; f++) {
                 int ahead = firstAhead(g, f, code);
-                if (ahead != NONE) {
-                    return answers(g, f, ahead);
+                if (ahead == NONE) {
+                    continue;
                 }
+                int count = (lastOf(g, f) + ahead) % COUNTS;
+                if (plan.gateKind[g] == WARY && ahead > WARY_ABOVE) {
+                    waitFor(g, f, (count + 1) % COUNTS);
+                    return false;
+                }
+                open(g, f, count);
+                return true;
             }
             return false;
         }
@@ -928,7 +936,8 @@ public final class RollingCodes {
         private int firstAhead(int g, int f, int code) {
             int secret = plan.fobSecret[f];
             int last = lastOf(g, f);
-            for (int ahead = plan.leastAhead(g); ahead <= plan.mostAhead(g); ahead++) {
+            int most = plan.mostAhead(g);
+            for (int ahead = plan.leastAhead(g); ahead <= most; ahead++) {
                 if (codeOf(secret, (last + ahead) % COUNTS) == code) {
                     return ahead;
                 }
@@ -936,26 +945,24 @@ public final class RollingCodes {
             return NONE;
         }
 
-        private boolean answers(int g, int f, int ahead) {
-            int count = (lastOf(g, f) + ahead) % COUNTS;
-            if (plan.gateKind[g] == WARY && ahead > WARY_ABOVE) {
-                waitsFob[g] = f;
-                waitsCount[g] = (count + 1) % COUNTS;
-                return false;
-            }
-            open(g, f, count);
-            return true;
-        }
-
         private void open(int g, int f, int count) {
             lastCounts[g * FOBS + f] = count;
             openings[g] = Math.min(openings[g] + 1, MOST_OPENINGS);
-            waitNoMore(g);
+            waitFor(g, NONE, NONE);
         }
 
-        private void waitNoMore(int g) {
-            waitsFob[g] = NONE;
-            waitsCount[g] = NONE;
+        private void waitFor(int g, int f, int count) {
+            waitsFob[g] = f;
+            waitsCount[g] = count;
+        }
+
+        private boolean waitsAs(Scene other) {
+            for (int g = 0; g < plan.gates; g++) {
+                if (waitsFob[g] != other.waitsFob[g] || waitsCount[g] != other.waitsCount[g]) {
+                    return false;
+                }
+            }
+            return true;
         }
     }
 
@@ -1032,7 +1039,6 @@ public final class RollingCodes {
     private static final class RowSearch {
         private final Scene[] scenes = new Scene[ROW + 1];
         private final int[] entries = new int[ROW];
-        private int wanted;
 
         private RowSearch(Plan plan) {
             for (int i = 0; i <= ROW; i++) {
@@ -1043,24 +1049,29 @@ public final class RollingCodes {
         /** How many entries the row has, or NONE. */
         private int find(Scene start) {
             scenes[0].copyFrom(start);
-            wanted = start.gatesInReach();
+            int wanted = start.gatesInReach();
             for (int length = 0; length <= ROW; length++) {
-                if (canEnd(0, length, 0)) {
+                if (canEnd(this, 0, length, wanted)) {
                     return length;
                 }
             }
             return NONE;
         }
 
-        private boolean canEnd(int depth, int length, int opened) {
+        /** Whether the row can go on from depth to its length so that the missing gates open. */
+        private static boolean canEnd(RowSearch row, int depth, int length, int missing) {
             if (depth >= length || depth >= ROW) {
-                return (opened & wanted) == wanted;
+                return missing == 0;
             }
-            for (int i = 0; i < scenes[depth].keptSize; i++) {
-                entries[depth] = i;
-                scenes[depth + 1].copyFrom(scenes[depth]);
-                int more = scenes[depth + 1].sentAgain(i);
-                if (canEnd(depth + 1, length, opened | more)) {
+            Scene ahead = row.scenes[depth];
+            Scene behind = row.scenes[depth + 1];
+            for (int i = 0; i < ahead.keptSize; i++) {
+                row.entries[depth] = i;
+                behind.copyFrom(ahead);
+                int still = missing & ~behind.sentAgain(i);
+                // An entry that changes nothing stands in no shortest row.
+                boolean isVain = still == missing && behind.waitsAs(ahead);
+                if (!isVain && canEnd(row, depth + 1, length, still)) {
                     return true;
                 }
             }
@@ -1068,10 +1079,9 @@ public final class RollingCodes {
         }
     }
 
-    /** Codes of an unknown secret that were seen. */
+    /** Which secrets fit the codes that were seen. */
     private static final class Seen {
-        private final int[] counts = new int[SEEN];
-        private final int[] codes = new int[SEEN];
+        private final boolean[] fits = new boolean[SECRETS];
         private final int[] alike = new int[CODES];
         private int size;
 
@@ -1079,29 +1089,24 @@ public final class RollingCodes {
             if (size >= SEEN) {
                 return false;
             }
-            counts[size] = count;
-            codes[size] = code;
+            for (int secret = 0; secret < SECRETS; secret++) {
+                fits[secret] &= codeOf(secret, count) == code;
+            }
             size++;
             return true;
         }
 
         private void clear() {
-            size = 0;
-        }
-
-        private boolean fits(int secret) {
-            for (int i = 0; i < size; i++) {
-                if (codeOf(secret, counts[i]) != codes[i]) {
-                    return false;
-                }
+            for (int secret = 0; secret < SECRETS; secret++) {
+                fits[secret] = true;
             }
-            return true;
+            size = 0;
         }
 
         private int fitting() {
             int sum = 0;
             for (int secret = 0; secret < SECRETS; secret++) {
-                if (fits(secret)) {
+                if (fits[secret]) {
                     sum++;
                 }
             }
@@ -1110,7 +1115,7 @@ public final class RollingCodes {
 
         private int leastFitting() {
             for (int secret = 0; secret < SECRETS; secret++) {
-                if (fits(secret)) {
+                if (fits[secret]) {
                     return secret;
                 }
             }
@@ -1119,18 +1124,18 @@ public final class RollingCodes {
 
         private int greatestFitting() {
             for (int secret = SECRETS - 1; secret >= 0; secret--) {
-                if (fits(secret)) {
+                if (fits[secret]) {
                     return secret;
                 }
             }
             return NONE;
         }
 
-        /** Starting from all that fits, so that a count that parts nothing is never taken. */
+        /** It begins with all that fits as one part, so a count that parts nothing is never the best. */
         private int bestQuestion() {
             int best = NONE;
             int least = fitting();
-            for (int count = 0; count <= LAST_ASKED; count++) {
+            for (int count = 0; count <= LAST_ASKED && least > 1; count++) {
                 int part = greatestPart(count);
                 if (part < least) {
                     least = part;
@@ -1146,7 +1151,7 @@ public final class RollingCodes {
             }
             int greatest = 0;
             for (int secret = 0; secret < SECRETS; secret++) {
-                if (fits(secret)) {
+                if (fits[secret]) {
                     int code = codeOf(secret, count);
                     alike[code]++;
                     greatest = Math.max(greatest, alike[code]);
