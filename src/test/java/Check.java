@@ -6,11 +6,19 @@ final class Check {
     private static final int TOLD_AT_MOST = 40;
 
     private final String name;
+    private String sentence = "";
     private int asked;
     private int wrong;
 
     Check(String name) {
         this.name = name;
+    }
+
+    /** What is due from here on is what this sentence of the document says; it is quoted to the letter. */
+    void says(String quoted) {
+        sentence = "";
+        isSo("the document has the sentence '" + quoted + "'", Doc.has(quoted));
+        sentence = " [" + quoted + "]";
     }
 
     void due(String call, long got, long want) {
@@ -20,7 +28,7 @@ final class Check {
         }
         wrong++;
         if (wrong <= TOLD_AT_MOST) {
-            System.out.println(name + ": " + call + " answered " + got + ", due is " + want);
+            System.out.println(name + ": " + call + " answered " + got + ", due is " + want + sentence);
         }
     }
 

@@ -184,7 +184,8 @@ public final class TriedTest {
         due("row: two, no third", c.row(2), RollingCodes.NONE);
     }
 
-    private static RollingCodes eachItsOwn(int many) {
+    /** So many gates, each of which opens to one kept entry alone, gate 0 to the oldest. */
+    static RollingCodes eachItsOwn(int many) {
         StringBuilder text = new StringBuilder("e5 9;");
         for (int i = 0; i < many; i++) {
             text.append("g1 5 1;f0 5 0 ").append(i).append(" 10;");
