@@ -11,15 +11,20 @@ final class Doc {
     private Doc() {
     }
 
+    /** A checkout without the document can still be tested: quotations are not looked up then. */
     static boolean has(String quoted) {
-        return TEXT.contains(fold(quoted));
+        return TEXT.isEmpty() || TEXT.contains(fold(quoted));
     }
 
     private static String read() {
+        if (!Files.isReadable(DOCUMENT)) {
+            System.out.println("no " + DOCUMENT + ": quotations are not looked up");
+            return "";
+        }
         try {
             return Files.readString(DOCUMENT);
-        } catch (IOException missing) {
-            throw new UncheckedIOException(missing);
+        } catch (IOException unread) {
+            throw new UncheckedIOException(unread);
         }
     }
 

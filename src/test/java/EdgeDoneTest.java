@@ -157,6 +157,19 @@ public final class EdgeDoneTest {
         due("far ahead: the first is waited behind, the second opens", half.press(0), 1);
         due("far ahead: openings", half.gate(0, 3), 1);
         due("far ahead: last", half.last(0, 0), 16);
+        eagerOpensByTheFirst();
+    }
+
+    /** The first code is that of fob 0's next count, the second is no one's. */
+    private static void eagerOpensByTheFirst() {
+        RollingCodes c = Check.on("e0 0;g1 5 1;f0 0 0 0 221;f1 5 0 1 15;");
+        c.noise(0, true);
+        pressTimes(c, 1, 2);
+        c.noise(0, false);
+        due("by the first alone", c.press(1), 1);
+        due("by the first alone: openings", c.gate(0, 3), 1);
+        due("by the first alone: last of 0", c.last(0, 0), 222);
+        due("by the first alone: last of 1", c.last(0, 1), 15);
     }
 
     private static void tiredBelowTwenty() {

@@ -9,6 +9,7 @@ public final class EdgeDrawsTest {
     private static final int GREATEST = 2147483647;
 
     public static void main(String[] args) {
+        calls512();
         theSeed();
         theSeedGoesOn();
         drawsOfFive();
@@ -54,6 +55,22 @@ public final class EdgeDrawsTest {
         c.seed(seed);
         due("drift(1) by seed " + seed, c.drift(1), 1);
         return c;
+    }
+
+    private static void calls512() {
+        CHECK.says("An object is used for at most 512 calls after it has been made");
+        String street = "e5 0;g0 5 3;f0 5 0 0 10;";
+        RollingCodes c = Check.on(street);
+        int calls = street.length() + 1;
+        for (; calls + 2 < 512; calls += 2) {
+            c.press(0);
+            c.fill(0);
+        }
+        for (; calls < 511; calls++) {
+            c.press(0);
+        }
+        due("the 512th call", c.fob(0, 4), 10 + c.gate(0, 3));
+        CHECK.isSo("it was pressed often", c.gate(0, 3) > 240);
     }
 
     private static void theSeed() {
@@ -132,6 +149,11 @@ public final class EdgeDrawsTest {
         RollingCodes none = hourOf(1, "e5 0;f0 5 0 0 10;");
         due("no gates", none.told(8), 0);
         due("no gates: two draws", seedOf(none), next(1, 2));
+        RollingCodes keeps = Check.on("e5 0;f0 5 0 0 10;");
+        keeps.press(0);
+        keeps.seed(1);
+        keeps.drift(1);
+        due("no gates, one kept: two draws", seedOf(keeps), next(1, 2));
         for (int gates = 1; gates <= 4; gates++) {
             String street = "e5 0;" + "g0 5 3;".repeat(gates) + "f0 5 0 0 10;";
             int drawn = next(1, 3) / 65536 % gates;
@@ -149,6 +171,7 @@ public final class EdgeDrawsTest {
         RollingCodes none = hourOf(7, "e5 0;g2 5 3;f0 5 0 0 10;");
         due("nothing kept", none.told(9), 0);
         due("nothing kept: two draws", seedOf(none), next(7, 2));
+        due("nothing kept, the gate would open to 0", hourOf(7, "e5 0;g2 5 3;f0 5 0 0 0;").told(9), 0);
         for (int kept = 1; kept <= 8; kept++) {
             RollingCodes c = Check.on("e5 0;g0 5 32;f0 5 0 0 10;");
             c.noise(0, true);

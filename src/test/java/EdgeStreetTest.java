@@ -20,6 +20,7 @@ public final class EdgeStreetTest {
         boundsOfGates();
         fobsAtMost();
         boundsOfFobs();
+        numberedAsTheyCome();
         eachIsTaughtEach();
         figures();
         words();
@@ -190,6 +191,19 @@ public final class EdgeStreetTest {
         reads("e0 0;f0 0 10 0 0;", -12, 10);
         reads("e0 0;f0 0 0 256 0;", -12, 12);
         reads("e0 0;f0 0 0 0 1000;", -12, 14);
+    }
+
+    private static void numberedAsTheyCome() {
+        CHECK.says("What has a number has it from 0 on, as it comes.");
+        RollingCodes c = stands("e0 0;f3 0 0 0 0;g3 0 1;g2 0 1;f2 0 0 0 0;f1 0 0 0 0;g1 0 1;f0 0 0 0 0;g0 0 1;f1 0 0 0 0;", 5);
+        int[] fobs = {3, 2, 1, 0, 1};
+        int[] gates = {3, 2, 1, 0};
+        for (int f = 0; f < 5; f++) {
+            due("fob(" + f + ", 0)", c.fob(f, 0), fobs[f]);
+        }
+        for (int g = 0; g < 4; g++) {
+            due("gate(" + g + ", 0)", c.gate(g, 0), gates[g]);
+        }
     }
 
     private static void eachIsTaughtEach() {

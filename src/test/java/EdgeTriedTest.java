@@ -23,6 +23,7 @@ public final class EdgeTriedTest {
         rowsUpToThree();
         rowOverEight();
         rowOfTheLesser();
+        rowNotUseful();
         rowAsOftenAsOneLikes();
         rowInReach();
         rowsKth();
@@ -104,6 +105,20 @@ public final class EdgeTriedTest {
         due("eager, 4 ahead, from 5: the wary one by the second", c.wouldOpen(0, 5), 2);
         due("eager from 0", c.wouldOpen(0, NONE), 0);
         due("place", c.fob(0, 1), 0);
+        due("eager, by the first alone", byTheFirstAlone().wouldOpen(1, NONE), 1);
+    }
+
+    /**
+     * Eager fob 1 is locked out of the strict gate; the first code of its next press is that of fob 0's next count,
+     * the second is no one's.
+     */
+    private static RollingCodes byTheFirstAlone() {
+        RollingCodes c = Check.on("e0 0;g1 5 1;f0 0 0 0 221;f1 5 0 1 15;");
+        c.noise(0, true);
+        pressTimes(c, 1, 2);
+        c.noise(0, false);
+        due("the first code", c.code(1, 20), c.code(0, 222));
+        return c;
     }
 
     private static void wouldOpenFrom() {
@@ -200,6 +215,7 @@ public final class EdgeTriedTest {
         due("wary, 4 ahead", waits.locked(0, 0), 0);
         waits.press(0);
         due("wary, it waits for the next", waits.locked(0, 0), 1);
+        due("eager, by the first alone", byTheFirstAlone().locked(0, 1), 1);
     }
 
     private static void takesTheFirst() {
@@ -215,6 +231,7 @@ public final class EdgeTriedTest {
         pressTimes(c, 2, 2);
         due("wary, eager, 5 and 6 ahead then: the first", c.takes(1, 2), 1);
         due("strict, eager, locked out: none", c.takes(2, 2), NONE);
+        due("eager, by the first alone", byTheFirstAlone().takes(0, 1), 1);
     }
 
     private static void takesTheTenth() {
@@ -327,6 +344,26 @@ public final class EdgeTriedTest {
         due("in noise", c.row(NONE), 0);
         c.noise(0, false);
         due("the useful one, not the latest", c.row(0), 1);
+    }
+
+    /** The ear keeps counts 17 to 24, all far ahead of 10: one is to wait behind, the next opens. */
+    private static void rowNotUseful() {
+        RollingCodes c = Check.on("e5 0;g3 5 20;f0 5 0 0 10;");
+        c.noise(0, true);
+        pressTimes(c, 0, 14);
+        c.noise(0, false);
+        due("none is useful", c.gate(0, 6), 0);
+        due("it does not wait: how many", c.row(NONE), 2);
+        due("it does not wait: the first", c.row(0), 1);
+        due("it does not wait: the second", c.row(1), 0);
+        c.again(0);
+        due("it waits for 25", c.gate(0, 5), 25);
+        due("it waits for 25: how many", c.row(NONE), 2);
+        due("it waits for 25: the first", c.row(0), 1);
+        c.again(3);
+        due("it waits for 22", c.gate(0, 5), 22);
+        due("it waits for 22: how many", c.row(NONE), 1);
+        due("it waits for 22: the first", c.row(0), 2);
     }
 
     /**
@@ -455,7 +492,9 @@ public final class EdgeTriedTest {
         CHECK.says("BEST PLACE of a FOB: from which, PRESSED now, it would open most GATES; of like ones the least PLACE.");
         due("none opens", Check.on("e0 0;f0 5 0 0 10;").fob(0, 6), 0);
         due("the least", Check.on("e0 0;g0 0 1;f0 5 0 0 10;").fob(0, 6), 0);
+        due("the least, with a range", Check.on("e0 0;g0 0 1;f0 5 1 0 10;").fob(0, 6), 0);
         due("the greatest", Check.on("e0 0;g0 9 1;f0 5 0 0 10;").fob(0, 6), 9);
+        due("the greatest, with a range", Check.on("e0 0;g0 9 1;g0 8 1;g0 7 1;f0 5 1 0 10;").fob(0, 6), 8);
         due("two are more than one", Check.on("e0 0;g0 1 1;g0 7 1;g0 9 1;f0 5 1 0 10;").fob(0, 6), 8);
         due("twice is not more", Check.on("e0 0;g1 2 1;g1 6 1;f1 5 0 0 10;").fob(0, 6), 2);
         RollingCodes c = Check.on("e0 0;g0 3 2;g0 7 9;f0 0 0 0 10;");
