@@ -64,6 +64,12 @@ final class Check {
         return codes;
     }
 
+    static void pressTimes(RollingCodes codes, int f, int times) {
+        for (int i = 0; i < times; i++) {
+            codes.press(f);
+        }
+    }
+
     /** All that can be asked and that changes nothing, for "nothing is changed". */
     static List<Integer> all(RollingCodes codes) {
         List<Integer> rows = new ArrayList<>(scene(codes));

@@ -35,16 +35,10 @@ public final class DoneTest {
         CHECK.due(call, got, want);
     }
 
-    private static void pressTimes(RollingCodes c, int f, int times) {
-        for (int i = 0; i < times; i++) {
-            c.press(f);
-        }
-    }
-
     /** Presses that gate 0 does not hear. */
     private static void pressInNoise(RollingCodes c, int f, int times) {
         c.noise(0, true);
-        pressTimes(c, f, times);
+        Check.pressTimes(c, f, times);
         c.noise(0, false);
     }
 
@@ -101,7 +95,7 @@ public final class DoneTest {
 
     private static void emptyBattery() {
         RollingCodes c = Check.on("e5 0;g0 5 3;f1 5 0 0 10;");
-        pressTimes(c, 0, 60);
+        Check.pressTimes(c, 0, 60);
         due("empty: battery", c.fob(0, 5), 0);
         due("empty: count", c.fob(0, 4), 130);
         List<Integer> before = Check.all(c);
@@ -130,7 +124,7 @@ public final class DoneTest {
 
     private static void theEarKeepsEight() {
         RollingCodes c = Check.on("e5 0;f0 5 0 0 10;");
-        pressTimes(c, 0, 9);
+        Check.pressTimes(c, 0, 9);
         due("eight: told(7)", c.told(7), 8);
         due("eight: kept(0)", c.kept(0), 247);
         due("eight: kept(7)", c.kept(7), 156);
@@ -285,7 +279,7 @@ public final class DoneTest {
         RollingCodes c = Check.on("e5 2;f0 5 9 0 10;");
         due("fill(0) full", c.fill(0), 60);
         due("fill: it can be undone", c.told(12), 1);
-        pressTimes(c, 0, 3);
+        Check.pressTimes(c, 0, 3);
         due("fill(0)", c.fill(0), 57);
         due("fill: battery", c.fob(0, 5), 60);
         due("fill(1)", c.fill(1), RollingCodes.UNKNOWN);
@@ -351,9 +345,10 @@ public final class DoneTest {
         due("9001 hours: told(4)", c.told(4), 9000);
     }
 
-    private static final String BUSY = "e5 4;g0 5 3;g2 6 3;g3 4 30;f0 5 9 0 10;f1 5 9 7 20;";
+    static final String BUSY = "e5 4;g0 5 3;g2 6 3;g3 4 30;f0 5 9 0 10;f1 5 9 7 20;";
 
-    private static int act(RollingCodes c, int which) {
+    /** One of the calls that can be undone; on the busy street, with something kept, none is refused. */
+    static int act(RollingCodes c, int which) {
         switch (which) {
             case 0: return c.press(1);
             case 1: return c.step(0, 2);
@@ -370,7 +365,7 @@ public final class DoneTest {
         for (int which = 0; which <= 7; which++) {
             RollingCodes c = Check.on(BUSY);
             c.noise(0, true);
-            pressTimes(c, 0, 2);
+            Check.pressTimes(c, 0, 2);
             c.press(1);
             c.seed(6);
             List<Integer> before = Check.scene(c);
@@ -391,7 +386,7 @@ public final class DoneTest {
 
     private static void sixteenAreKept() {
         RollingCodes c = Check.on("e5 0;g0 5 3;f0 5 0 0 10;");
-        pressTimes(c, 0, 18);
+        Check.pressTimes(c, 0, 18);
         due("sixteen: told(12)", c.told(12), 16);
         c.press(7);
         c.step(0, 5);

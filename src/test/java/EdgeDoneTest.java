@@ -56,17 +56,11 @@ public final class EdgeDoneTest {
         CHECK.due(call, got, want);
     }
 
-    private static void pressTimes(RollingCodes c, int f, int times) {
-        for (int i = 0; i < times; i++) {
-            c.press(f);
-        }
-    }
-
     /** A street with one gate and one fob side by side, the fob so many counts ahead when it is pressed next. */
     private static RollingCodes pressedNext(String gate, int ahead) {
         RollingCodes c = Check.on("e5 0;" + gate + "f0 5 0 0 10;");
         c.noise(0, true);
-        pressTimes(c, 0, ahead - 1);
+        Check.pressTimes(c, 0, ahead - 1);
         c.noise(0, false);
         return c;
     }
@@ -119,7 +113,7 @@ public final class EdgeDoneTest {
         CHECK.says("PRESSED, its BATTERY being above 0: the BATTERY is 1 less");
         for (int kind = 0; kind <= 3; kind++) {
             RollingCodes c = Check.on("e5 0;g2 5 9;f" + kind + " 5 0 0 10;");
-            pressTimes(c, 0, 59);
+            Check.pressTimes(c, 0, 59);
             due("kind " + kind + ": battery of 1", c.fob(0, 5), 1);
             due("kind " + kind + ": wouldOpen with 1", c.wouldOpen(0, NONE), 1);
             due("kind " + kind + ": press with 1", c.press(0), 1);
@@ -152,7 +146,7 @@ public final class EdgeDoneTest {
         due("kept(1), the first", c.kept(1), 143);
         RollingCodes half = Check.on("e5 0;g3 5 9;f1 5 0 0 10;");
         half.noise(0, true);
-        pressTimes(half, 0, 2);
+        Check.pressTimes(half, 0, 2);
         half.noise(0, false);
         due("far ahead: the first is waited behind, the second opens", half.press(0), 1);
         due("far ahead: openings", half.gate(0, 3), 1);
@@ -160,12 +154,8 @@ public final class EdgeDoneTest {
         eagerOpensByTheFirst();
     }
 
-    /** The first code is that of fob 0's next count, the second is no one's. */
     private static void eagerOpensByTheFirst() {
-        RollingCodes c = Check.on("e0 0;g1 5 1;f0 0 0 0 221;f1 5 0 1 15;");
-        c.noise(0, true);
-        pressTimes(c, 1, 2);
-        c.noise(0, false);
+        RollingCodes c = EdgeTriedTest.byTheFirstAlone();
         due("by the first alone", c.press(1), 1);
         due("by the first alone: openings", c.gate(0, 3), 1);
         due("by the first alone: last of 0", c.last(0, 0), 222);
@@ -175,7 +165,7 @@ public final class EdgeDoneTest {
     private static void tiredBelowTwenty() {
         CHECK.says("2 (tired): as plain, but with a BATTERY below 20 (behind the press) RANGE is half (cut) for it.");
         RollingCodes c = Check.on("e9 0;g0 4 9;g0 5 9;g0 9 9;f2 0 9 0 10;");
-        pressTimes(c, 0, 39);
+        Check.pressTimes(c, 0, 39);
         due("battery 21: wouldOpen", c.wouldOpen(0, NONE), 7);
         due("battery 21, 20 behind the press", c.press(0), 7);
         due("battery 20", c.fob(0, 5), 20);
@@ -188,7 +178,7 @@ public final class EdgeDoneTest {
         due("the ear does not hear from afar", c.kept(0), c.code(0, 50));
         due("the count goes on", c.fob(0, 4), 51);
         due("the range as told", c.fob(0, 2), 9);
-        pressTimes(c, 0, 18);
+        Check.pressTimes(c, 0, 18);
         due("battery 1, 0 behind the press", c.press(0), 1);
         due("battery 0", c.fob(0, 5), 0);
         c.fill(0);
@@ -202,7 +192,7 @@ public final class EdgeDoneTest {
         for (int range = 0; range <= 9; range++) {
             int half = halves[range];
             RollingCodes c = Check.on("e0 0;g0 " + half + " 1;g0 " + (half + 1) + " 1;f2 0 " + range + " 0 10;");
-            pressTimes(c, 0, 41);
+            Check.pressTimes(c, 0, 41);
             c.teach(0, 0);
             c.teach(1, 0);
             due("half of range " + range, c.press(0), 1);
@@ -212,7 +202,7 @@ public final class EdgeDoneTest {
     private static void othersDoNotTire() {
         for (int kind : new int[] {0, 1, 3}) {
             RollingCodes c = Check.on("e0 0;g2 9 9;f" + kind + " 0 9 0 10;");
-            pressTimes(c, 0, 59);
+            Check.pressTimes(c, 0, 59);
             due("kind " + kind + " with a battery of 1", c.press(0), 1);
         }
     }
@@ -220,7 +210,7 @@ public final class EdgeDoneTest {
     private static void oldStays() {
         CHECK.says("3 (old): the COUNT stays, its CODE is sent.");
         RollingCodes c = Check.on("e5 0;g2 5 1;g0 5 32;f3 5 0 0 0;");
-        pressTimes(c, 0, 59);
+        Check.pressTimes(c, 0, 59);
         due("count 0", c.fob(0, 4), 0);
         due("kept(0)", c.kept(0), 0);
         due("kept(7)", c.kept(7), 0);
@@ -268,7 +258,7 @@ public final class EdgeDoneTest {
         due("last at 0", c.last(0, 0), 10);
         due("last at 1", c.last(1, 0), 11);
         c.noise(1, true);
-        pressTimes(c, 0, 5);
+        Check.pressTimes(c, 0, 5);
         due("a gate in noise does not begin to wait", c.gate(1, 4), NONE);
         due("openings", c.told(9), 1);
     }
@@ -303,7 +293,7 @@ public final class EdgeDoneTest {
 
     private static void theEarKeepsTheLatestOfTwo() {
         RollingCodes c = Check.on("e5 0;f0 5 0 0 10;f1 5 0 0 100;");
-        pressTimes(c, 0, 7);
+        Check.pressTimes(c, 0, 7);
         c.press(1);
         due("told(7)", c.told(7), 8);
         due("kept(0)", c.kept(0), c.code(0, 102));
@@ -442,8 +432,8 @@ public final class EdgeDoneTest {
     private static void waryInPlace() {
         RollingCodes c = Check.on("e5 0;g3 5 32;f0 5 0 0 10;f0 5 0 1 10;");
         c.noise(0, true);
-        pressTimes(c, 0, 4);
-        pressTimes(c, 1, 4);
+        Check.pressTimes(c, 0, 4);
+        Check.pressTimes(c, 1, 4);
         c.noise(0, false);
         c.press(0);
         due("waits for fob 0", c.gate(0, 4), 0);
@@ -459,7 +449,7 @@ public final class EdgeDoneTest {
     private static void waryAheadOfAllElse() {
         RollingCodes c = Check.on("e5 0;g3 5 20;f0 0 0 0 15;f0 5 0 0 10;");
         c.noise(0, true);
-        pressTimes(c, 1, 4);
+        Check.pressTimes(c, 1, 4);
         c.noise(0, false);
         c.press(1);
         due("waits for fob 1", c.gate(0, 4), 1);
@@ -473,7 +463,7 @@ public final class EdgeDoneTest {
         CHECK.says("OPENS: LAST becomes the count; openings of the GATE are one more (9999 at most); it WAITS no more.");
         RollingCodes c = Check.on("e5 0;g3 5 32;f0 5 0 0 10;f0 5 0 1 10;");
         c.noise(0, true);
-        pressTimes(c, 0, 4);
+        Check.pressTimes(c, 0, 4);
         c.noise(0, false);
         c.press(0);
         due("another fob opens", c.press(1), 1);
@@ -485,7 +475,7 @@ public final class EdgeDoneTest {
         due("is far ahead again", c.gate(0, 5), 17);
         RollingCodes low = Check.on("e5 0;g3 5 32;f0 5 0 0 10;");
         low.noise(0, true);
-        pressTimes(low, 0, 4);
+        Check.pressTimes(low, 0, 4);
         low.noise(0, false);
         low.press(0);
         due("an earlier one opens", low.again(1), 1);
@@ -498,7 +488,7 @@ public final class EdgeDoneTest {
         CHECK.says("With any other CODE nothing is changed.");
         RollingCodes c = Check.on("e5 9;g0 5 32;g1 5 32;g2 5 32;g3 5 32;f3 9 9 0 10;f0 5 9 1 10;");
         c.noise(3, true);
-        pressTimes(c, 1, 5);
+        Check.pressTimes(c, 1, 5);
         c.noise(3, false);
         c.press(1);
         c.teach(2, 0);
@@ -565,7 +555,7 @@ public final class EdgeDoneTest {
         RollingCodes c = Check.on("e0 9;g3 8 12;g1 0 32;f0 4 9 200 0;f0 4 9 0 100;");
         c.press(0);
         c.noise(0, true);
-        pressTimes(c, 1, 4);
+        Check.pressTimes(c, 1, 4);
         c.noise(0, false);
         c.press(1);
         int[] want = {3, 8, 12, 1, 1, 106, 0b11110};
@@ -607,7 +597,7 @@ public final class EdgeDoneTest {
         due("kept(0), one", c.kept(0), 143);
         due("kept(1), one", c.kept(1), NONE);
         due("kept(-1)", c.kept(-1), NONE);
-        pressTimes(c, 0, 7);
+        Check.pressTimes(c, 0, 7);
         due("kept(0), eight", c.kept(0), 234);
         due("kept(7), eight", c.kept(7), 143);
         due("kept(8), eight", c.kept(8), NONE);
@@ -625,7 +615,7 @@ public final class EdgeDoneTest {
         due("press(-1)", c.press(-1), UNKNOWN);
         due("press(2)", c.press(2), UNKNOWN);
         due("press(0), no fobs", Check.on("e0 0;").press(0), UNKNOWN);
-        pressTimes(c, 0, 58);
+        Check.pressTimes(c, 0, 58);
         due("press(0), battery 0", c.press(0), NOT);
     }
 
@@ -684,8 +674,8 @@ public final class EdgeDoneTest {
     private static void teaching() {
         CHECK.says("TAUGHT: LAST of a FOB at a GATE is its COUNT now.");
         RollingCodes c = Check.on("e0 0;g0 5 1;g0 5 1;f0 0 0 0 10;f0 0 0 0 20;");
-        pressTimes(c, 0, 3);
-        pressTimes(c, 1, 3);
+        Check.pressTimes(c, 0, 3);
+        Check.pressTimes(c, 1, 3);
         due("teach(1, 0)", c.teach(1, 0), 13);
         due("last(1, 0)", c.last(1, 0), 13);
         due("last(0, 0)", c.last(0, 0), 10);
@@ -712,7 +702,7 @@ public final class EdgeDoneTest {
         due("noise at 0", c.again(0), 4);
         c.earTo(0);
         due("from 0: 2", c.again(0), 2);
-        pressTimes(c, 0, 7);
+        Check.pressTimes(c, 0, 7);
         due("kept(7), eight", c.kept(7), 143);
         c.again(7);
         due("kept(7), eight still", c.kept(7), 143);
@@ -728,9 +718,9 @@ public final class EdgeDoneTest {
         CHECK.says("FILLED: what BATTERY was. UNKNOWN.");
         RollingCodes c = Check.on("e5 2;f1 5 9 0 10;f0 5 9 0 10;");
         due("fill(0), full", c.fill(0), 60);
-        pressTimes(c, 0, 1);
+        Check.pressTimes(c, 0, 1);
         due("fill(0), one less", c.fill(0), 59);
-        pressTimes(c, 0, 60);
+        Check.pressTimes(c, 0, 60);
         due("fill(0), empty", c.fill(0), 0);
         due("battery", c.fob(0, 5), 60);
         due("count", c.fob(0, 4), 132);

@@ -7,6 +7,7 @@ public final class EdgeDrawsTest {
     private static final int UNKNOWN = RollingCodes.UNKNOWN, OUTSIDE = RollingCodes.OUTSIDE;
     private static final int NOT = RollingCodes.NOT, FULL = RollingCodes.FULL;
     private static final int GREATEST = 2147483647;
+    private static final String BUSY = DoneTest.BUSY;
 
     public static void main(String[] args) {
         calls512();
@@ -259,8 +260,6 @@ public final class EdgeDrawsTest {
         due("9060: drift(1)", most.drift(1), FULL);
     }
 
-    private static final String BUSY = "e5 4;g0 5 3;g2 6 3;g3 4 30;f0 5 9 0 10;f1 5 9 7 20;";
-
     private static RollingCodes busy() {
         RollingCodes c = Check.on(BUSY);
         c.noise(0, true);
@@ -272,26 +271,13 @@ public final class EdgeDrawsTest {
         return c;
     }
 
-    private static int act(RollingCodes c, int which) {
-        switch (which) {
-            case 0: return c.press(1);
-            case 1: return c.step(0, 2);
-            case 2: return c.earTo(3);
-            case 3: return c.noise(2, true);
-            case 4: return c.teach(0, 1);
-            case 5: return c.again(0);
-            case 6: return c.fill(0);
-            default: return c.drift(20);
-        }
-    }
-
     private static void eachIsUndone() {
         CHECK.says("UNDONE: the latest of press(), step(), earTo(), noise(), teach(), again(), fill(), drift() that was not refused");
         for (int which = 0; which <= 7; which++) {
             RollingCodes c = busy();
             List<Integer> before = Check.scene(c);
             due("act " + which + ": nothing to undo", c.undo(), NOT);
-            CHECK.isSo("act " + which + " is not refused", act(c, which) >= 0);
+            CHECK.isSo("act " + which + " is not refused", DoneTest.act(c, which) >= 0);
             due("act " + which + ": told(12)", c.told(12), 1);
             CHECK.isSo("act " + which + " changes something", !before.equals(Check.scene(c)));
             due("act " + which + ": undo()", c.undo(), 0);
@@ -333,7 +319,7 @@ public final class EdgeDrawsTest {
         List<List<Integer>> scenes = new ArrayList<>();
         for (int i = 0; i < 16; i++) {
             scenes.add(Check.scene(c));
-            act(c, i % 2 == 0 ? 0 : i % 4 == 1 ? 5 : 6);
+            DoneTest.act(c, i % 2 == 0 ? 0 : i % 4 == 1 ? 5 : 6);
             due("told(12)", c.told(12), i + 1);
         }
         for (int i = 15; i >= 0; i--) {
@@ -408,7 +394,7 @@ public final class EdgeDrawsTest {
                 RollingCodes c = busy();
                 c.keep(image);
                 List<Integer> before = Check.scene(c);
-                act(c, which);
+                DoneTest.act(c, which);
                 c.see(0, 0);
                 c.write(0, 0);
                 c.feed('e');

@@ -42,22 +42,16 @@ public final class EdgeTriedTest {
         CHECK.due(call, got, want);
     }
 
-    private static void pressTimes(RollingCodes c, int f, int times) {
-        for (int i = 0; i < times; i++) {
-            c.press(f);
-        }
-    }
-
     /** A wary gate that waits, a gate in noise, entries that are kept, a battery that is low. */
     private static RollingCodes busy() {
         RollingCodes c = Check.on("e5 9;g0 5 4;g3 6 20;g2 7 4;f0 5 9 0 10;f1 5 9 1 10;f2 3 4 2 10;f3 3 4 3 10;");
         c.noise(1, true);
-        pressTimes(c, 0, 5);
+        Check.pressTimes(c, 0, 5);
         c.noise(1, false);
         c.press(0);
         c.noise(0, true);
         c.keep(1);
-        pressTimes(c, 2, 45);
+        Check.pressTimes(c, 2, 45);
         c.see(0, 0);
         c.write(0, c.gate(0, 3));
         c.feed('e');
@@ -101,7 +95,7 @@ public final class EdgeTriedTest {
         RollingCodes c = Check.on("e0 0;g1 5 1;g3 6 9;g0 4 4;f1 5 1 0 10;");
         due("eager: all, the first twice", c.wouldOpen(0, NONE), 7);
         c.step(0, 0);
-        pressTimes(c, 0, 2);
+        Check.pressTimes(c, 0, 2);
         due("eager, 4 ahead, from 5: the wary one by the second", c.wouldOpen(0, 5), 2);
         due("eager from 0", c.wouldOpen(0, NONE), 0);
         due("place", c.fob(0, 1), 0);
@@ -112,12 +106,11 @@ public final class EdgeTriedTest {
      * Eager fob 1 is locked out of the strict gate; the first code of its next press is that of fob 0's next count,
      * the second is no one's.
      */
-    private static RollingCodes byTheFirstAlone() {
+    static RollingCodes byTheFirstAlone() {
         RollingCodes c = Check.on("e0 0;g1 5 1;f0 0 0 0 221;f1 5 0 1 15;");
         c.noise(0, true);
-        pressTimes(c, 1, 2);
+        Check.pressTimes(c, 1, 2);
         c.noise(0, false);
-        due("the first code", c.code(1, 20), c.code(0, 222));
         return c;
     }
 
@@ -135,7 +128,7 @@ public final class EdgeTriedTest {
         c.noise(0, true);
         due("wouldOpen(0, 0) in noise", c.wouldOpen(0, 0), 0);
         c.noise(0, false);
-        pressTimes(c, 0, 60);
+        Check.pressTimes(c, 0, 60);
         c.teach(0, 0);
         due("wouldOpen(0, 0), battery 0", c.wouldOpen(0, 0), 0);
         due("wouldOpen(0, 10), battery 0", c.wouldOpen(0, 10), OUTSIDE);
@@ -204,13 +197,13 @@ public final class EdgeTriedTest {
     private static void lockedAsIfNextToIt() {
         CHECK.says("(BATTERY 60 each time, as if next to the GATE, without NOISE); NONE.");
         RollingCodes c = Check.on("e0 0;g0 9 5;f2 0 0 0 10;");
-        pressTimes(c, 0, 60);
+        Check.pressTimes(c, 0, 60);
         c.teach(0, 0);
         c.noise(0, true);
         due("battery 0, far off, in noise", c.locked(0, 0), 5);
         RollingCodes waits = Check.on("e0 0;g3 0 9;f0 0 0 0 10;");
         waits.noise(0, true);
-        pressTimes(waits, 0, 4);
+        Check.pressTimes(waits, 0, 4);
         waits.noise(0, false);
         due("wary, 4 ahead", waits.locked(0, 0), 0);
         waits.press(0);
@@ -223,12 +216,12 @@ public final class EdgeTriedTest {
         RollingCodes c = Check.on("e0 0;g0 5 1;g3 5 20;g1 5 1;f0 0 0 0 10;f3 0 0 1 10;f1 0 0 2 10;");
         due("the first", c.takes(0, 0), 1);
         due("old: none", c.takes(0, 1), NONE);
-        pressTimes(c, 0, 3);
+        Check.pressTimes(c, 0, 3);
         due("plain, locked out: none", c.takes(0, 0), NONE);
         due("wary, 4 ahead then: the first", c.takes(1, 0), 1);
         c.press(0);
         due("wary, 5 ahead then: the second", c.takes(1, 0), 2);
-        pressTimes(c, 2, 2);
+        Check.pressTimes(c, 2, 2);
         due("wary, eager, 5 and 6 ahead then: the first", c.takes(1, 2), 1);
         due("strict, eager, locked out: none", c.takes(2, 2), NONE);
         due("eager, by the first alone", byTheFirstAlone().takes(0, 1), 1);
@@ -247,9 +240,9 @@ public final class EdgeTriedTest {
 
     private static void takesAsIfNextToIt() {
         RollingCodes c = Check.on("e0 0;g3 9 20;f2 0 0 0 10;");
-        pressTimes(c, 0, 55);
+        Check.pressTimes(c, 0, 55);
         c.teach(0, 0);
-        pressTimes(c, 0, 5);
+        Check.pressTimes(c, 0, 5);
         c.noise(0, true);
         due("battery 0, far off, in noise", c.takes(0, 0), 2);
         CHECK.says("`int takes(int g, int f)`: TAKES; NONE. UNKNOWN.");
@@ -266,7 +259,7 @@ public final class EdgeTriedTest {
         c.press(0);
         due("one kept", c.gate(0, 6), 1);
         due("one kept, strict", c.gate(2, 6), 1);
-        pressTimes(c, 0, 7);
+        Check.pressTimes(c, 0, 7);
         due("eight kept, all", c.gate(0, 6), 255);
         due("eight kept, a window of eight", c.gate(1, 6), 255);
         due("eight kept, strict", c.gate(2, 6), 128);
@@ -284,7 +277,7 @@ public final class EdgeTriedTest {
     private static void usefulToTheWary() {
         RollingCodes c = Check.on("e9 0;g3 9 32;f0 9 0 0 10;");
         c.noise(0, true);
-        pressTimes(c, 0, 8);
+        Check.pressTimes(c, 0, 8);
         due("counts 11 to 14 of 18", c.gate(0, 6), 0b11110000);
         c.noise(0, false);
         c.again(3);
@@ -323,7 +316,7 @@ public final class EdgeTriedTest {
     private static void rowOverEight() {
         RollingCodes c = Check.on("e5 0;g1 5 1;f0 5 0 0 10;");
         c.noise(0, true);
-        pressTimes(c, 0, 8);
+        Check.pressTimes(c, 0, 8);
         c.noise(0, false);
         due("the oldest alone", c.row(NONE), 1);
         due("the oldest alone: which", c.row(0), 7);
@@ -335,12 +328,12 @@ public final class EdgeTriedTest {
 
     private static void rowOfTheLesser() {
         RollingCodes c = Check.on("e5 0;g2 5 1;f3 5 0 0 10;f0 5 0 1 10;");
-        pressTimes(c, 0, 3);
+        Check.pressTimes(c, 0, 3);
         due("three alike", c.row(NONE), 1);
         due("the least of three alike", c.row(0), 0);
         c.teach(0, 1);
         c.noise(0, true);
-        pressTimes(c, 1, 2);
+        Check.pressTimes(c, 1, 2);
         due("in noise", c.row(NONE), 0);
         c.noise(0, false);
         due("the useful one, not the latest", c.row(0), 1);
@@ -350,7 +343,7 @@ public final class EdgeTriedTest {
     private static void rowNotUseful() {
         RollingCodes c = Check.on("e5 0;g3 5 20;f0 5 0 0 10;");
         c.noise(0, true);
-        pressTimes(c, 0, 14);
+        Check.pressTimes(c, 0, 14);
         c.noise(0, false);
         due("none is useful", c.gate(0, 6), 0);
         due("it does not wait: how many", c.row(NONE), 2);
@@ -372,11 +365,11 @@ public final class EdgeTriedTest {
      */
     private static void rowAsOftenAsOneLikes() {
         RollingCodes c = Check.on("e9 0;g3 5 8;g3 5 8;f0 0 0 240 15;f0 0 0 243 361;");
-        pressTimes(c, 0, 4);
+        Check.pressTimes(c, 0, 4);
         c.earTo(0);
-        pressTimes(c, 0, 2);
+        Check.pressTimes(c, 0, 2);
         c.earTo(4);
-        pressTimes(c, 1, 10);
+        Check.pressTimes(c, 1, 10);
         c.teach(0, 1);
         c.teach(1, 0);
         due("not in reach", c.row(NONE), 0);
@@ -443,7 +436,7 @@ public final class EdgeTriedTest {
         due("COUNT and 41 of an eager one, pressed", c.who(c.code(0, 51)), 2);
         due("COUNT and 42 of an eager one, pressed", c.who(c.code(0, 52)), 2);
         due("COUNT and 43 of an eager one, pressed", c.who(c.code(0, 53)), 0);
-        pressTimes(c, 0, 60);
+        Check.pressTimes(c, 0, 60);
         due("with a battery of 0", c.who(c.code(0, 71)), 1);
     }
 
@@ -499,12 +492,12 @@ public final class EdgeTriedTest {
         due("twice is not more", Check.on("e0 0;g1 2 1;g1 6 1;f1 5 0 0 10;").fob(0, 6), 2);
         RollingCodes c = Check.on("e0 0;g0 3 2;g0 7 9;f0 0 0 0 10;");
         due("both open", c.fob(0, 6), 3);
-        pressTimes(c, 0, 2);
+        Check.pressTimes(c, 0, 2);
         due("the first does not open", c.fob(0, 6), 7);
         c.noise(1, true);
         due("the other is in noise", c.fob(0, 6), 0);
         c.noise(1, false);
-        pressTimes(c, 0, 58);
+        Check.pressTimes(c, 0, 58);
         c.teach(1, 0);
         due("a battery of 0", c.fob(0, 6), 0);
     }
