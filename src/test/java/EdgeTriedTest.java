@@ -24,6 +24,7 @@ public final class EdgeTriedTest {
         rowOverEight();
         rowOfTheLesser();
         rowNotUseful();
+        rowOfAnotherFob();
         rowAsOftenAsOneLikes();
         rowInReach();
         rowsKth();
@@ -357,6 +358,25 @@ public final class EdgeTriedTest {
         due("it waits for 22", c.gate(0, 5), 22);
         due("it waits for 22: how many", c.row(NONE), 1);
         due("it waits for 22: the first", c.row(0), 2);
+    }
+
+    /** The gate waits for count 16 of fob 0; the ear keeps counts 15 and 16 of fob 1, which is as far ahead. */
+    private static void rowOfAnotherFob() {
+        RollingCodes c = Check.on("e0 0;g3 5 20;f0 5 0 0 10;f0 4 0 1 10;");
+        c.noise(0, true);
+        Check.pressTimes(c, 0, 4);
+        c.noise(0, false);
+        c.press(0);
+        Check.pressTimes(c, 1, 4);
+        c.earTo(4);
+        Check.pressTimes(c, 1, 2);
+        c.earTo(5);
+        due("it waits for fob 0", c.gate(0, 4), 0);
+        due("it waits for count 16", c.gate(0, 5), 16);
+        due("kept", c.told(7), 2);
+        due("how many", c.row(NONE), 2);
+        due("the first", c.row(0), 1);
+        due("the second", c.row(1), 0);
     }
 
     /**
