@@ -60,6 +60,7 @@ public final class RulesTest {
             }
         }
         CHECK.isSo("the methods of the document: " + open, open.equals(new TreeSet<>(Arrays.asList(FACE))));
+        CHECK.isSo("the document's own face: " + Doc.face(), Doc.face().isEmpty() || Doc.face().equals(open));
         CHECK.isSo("public and final", Modifier.isFinal(RollingCodes.class.getModifiers()) && Modifier.isPublic(RollingCodes.class.getModifiers()));
         CHECK.due("constructors", RollingCodes.class.getDeclaredConstructors().length, 1);
     }
